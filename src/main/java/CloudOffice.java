@@ -517,7 +517,8 @@ public final class CloudOffice {
         private static final int WORD = 1;
         private static final int SETS = 1 << EDGES;
         private static final int SUM_SHIFT = 4 * EDGES;
-        private static final long UNREACHED = Long.MAX_VALUE;
+        // above every key: sums stay under 2000000, which takes 21 bits
+        private static final long UNREACHED = 1L << 60;
 
         private final Settings settings;
         private final Table first;
@@ -823,7 +824,7 @@ public final class CloudOffice {
             int low = 0;
             int high = MOST_DIFFERENCE;
             for (int step = 0; step < HALVINGS && low < high; step++) {
-                int middle = low + high >> 1;
+                int middle = (low + high) / 2;
                 if (settle(middle)) {
                     high = middle;
                 } else {
@@ -944,6 +945,8 @@ public final class CloudOffice {
     private static final class Sheets {
         private static final int SETS = 1 << FORMS;
         private static final int QUARREL_SHIFT = 3 * FORMS;
+        // above every key: a quarrel is 100 at most
+        private static final long UNREACHED = 1L << 60;
 
         private final Table notes;
         private final int[] votes;
@@ -979,7 +982,7 @@ public final class CloudOffice {
         /** The best row of the forms in a set, one of which is its last; smaller sets are known. */
         private long bestOf(int set) {
             int shift = 3 * (FORMS - Integer.bitCount(set));
-            long best = Long.MAX_VALUE;
+            long best = UNREACHED;
             for (int form = 0; form < FORMS; form++) {
                 int before = set & ~(1 << form);
                 if (before != set && before >= 0 && before < SETS) {

@@ -11,6 +11,8 @@ public final class SpeedsTest {
         shade();
         agree();
         agreeAtTheEnds();
+        agreeWithSlip();
+        agreeAtTheLimits();
         balloon();
         light();
         Due.end();
@@ -60,6 +62,7 @@ public final class SpeedsTest {
         Due.fraction(x, "the same, told the other way", x.speed(1, 0, 0), 100, 1);
         Due.fraction(x, "700 less 500 in 20 minutes", x.speed(5, 0, 0), 10, 1);
         Due.noFraction(x, "a height is none", x.speed(4, 0, 0), 0, 10, 1);
+        Due.noFraction(x, "a height is none, told the other way", x.speed(0, 4, 0), 0, 10, 1);
         Due.noFraction(x, "a height is none", x.speed(0, 4, 1), 0, 10, 1);
         Due.noFraction(x, "a span has no end", x.speed(0, 5, 1), 0, 10, 1);
         Due.noFraction(x, "a span has no end", x.speed(5, 0, 2), 0, 10, 1);
@@ -68,6 +71,9 @@ public final class SpeedsTest {
         for (int[] b : bad) {
             Due.noFraction(x, "bad speed", x.speed(b[0], b[1], b[2]), CloudOffice.BAD, 10, 1);
         }
+        x.sight(2, 60, 1, 0);
+        Due.fraction(x, "1000 less 500 in 30 minutes", x.speed(0, 6, 0), 50, 3);
+        Due.fraction(x, "the least gap is one", x.speed(6, 0, 0), 50, 3);
     }
 
     /** All four signs of a lean, less and more the slip: the ends are taken from the gap that carries further. */
@@ -146,6 +152,39 @@ public final class SpeedsTest {
         Due.is("lower end touches", x.agree(0, 1, 0, 2), 1);
         Due.is("just above", x.agree(0, 1, 0, 3), 0);
         Due.is("just below", x.agree(0, 1, 0, 4), 0);
+    }
+
+    /** The span of the sights is from 625 by 3 to 875, their speed is 500. */
+    private static void agreeWithSlip() {
+        CloudOffice x = new CloudOffice();
+        x.base(1000, 100);
+        x.sight(0, 0, 0, -1000);
+        x.sight(0, 1, 500, -500);
+        x.shadow(0, 0, 0, 0);
+        x.shadow(0, 3, 625, 0);
+        x.shadow(0, 3, 624, 0);
+        x.shadow(0, 1, 875, 0);
+        x.shadow(0, 1, 876, 0);
+        x.shadow(0, 3, 600, 25);
+        x.shadow(0, 1, 5000, 4125);
+        x.shadow(0, 1, 500, 10000);
+        int[] want = {1, 0, 1, 0, 1, 1, 1};
+        for (int i = 0; i < want.length; i++) {
+            Due.is("agree by slip, shadow " + (i + 1), x.agree(0, 1, 0, i + 1), want[i]);
+        }
+    }
+
+    /** The widest numbers that are let in: nothing runs over. */
+    private static void agreeAtTheLimits() {
+        CloudOffice x = new CloudOffice();
+        x.base(100000, 1000);
+        x.sight(0, 0, 20000, -20000);
+        x.sight(0, 1439, 19999, -20000);
+        x.shadow(0, 0, -1000000, 10000);
+        x.shadow(0, 1439, 1000000, 10000);
+        x.shadow(0, 1439, -1000000, 0);
+        Due.is("far apart", x.agree(0, 1, 0, 1), 0);
+        Due.is("both nearly still", x.agree(0, 1, 0, 2), 1);
     }
 
     private static void balloon() {
