@@ -1,5 +1,6 @@
 import java.math.BigInteger;
 import java.util.ArrayList;
+import java.util.Arrays;
 import java.util.List;
 
 /**
@@ -71,6 +72,11 @@ final class PlainOffice {
         }
         fraction = ratio;
         return 1;
+    }
+
+    long call(String name, int... numbers) {
+        int[] a = Arrays.copyOf(numbers, 4);
+        return call(Arrays.asList(NAMES).indexOf(name), a[0], a[1], a[2], a[3]);
     }
 
     long call(int method, int a, int b, int c, int d) {
