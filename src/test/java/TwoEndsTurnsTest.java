@@ -227,6 +227,10 @@ public final class TwoEndsTurnsTest {
         Due.is("d is -1", x.cost(0, 1), NONE);
         Due.is("d is 10, though its span has no end", x.cost(0, 2), 0);
         Due.is("d is 9 and too high", x.cost(0, 3), NONE);
+        x.base(10, 1000);
+        x.edge(1, -1, 1);
+        Due.is("d is 1, the least there is", x.cost(0, 4), 0);
+        Due.is("d is 0, by a short BASE", x.cost(0, 0), NONE);
     }
 
     /** "ALONE for each EDGE in none and COSTS are together least": a pair of two against two alone. */
