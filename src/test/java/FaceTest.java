@@ -84,6 +84,8 @@ public final class FaceTest {
             Due.is(one + " has no classes inside", one.getDeclaredClasses().length, 0);
             for (Method method : one.getDeclaredMethods()) {
                 Due.isTrue(method + " takes seven at most", method.getParameterCount() <= 7);
+                Due.isTrue(method + " bears no name of the face",
+                    Arrays.stream(FACE).noneMatch(f -> f.startsWith(method.getName() + "(")));
             }
         }
         Due.isTrue("the class has few fields", fieldsOf(CloudOffice.class) <= 20);
